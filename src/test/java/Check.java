@@ -6,9 +6,32 @@ final class Check {
         int answer();
     }
 
+    /** A test of one sentence of the document. */
+    interface Test {
+        void run();
+    }
+
     private static int wrong;
+    private static int passed;
+    private static int failed;
 
     private Check() {
+    }
+
+    /** Runs a test of its own for a sentence; one that is stopped does not stop the others. */
+    static void that(String sentence, Test test) {
+        int before = wrong;
+        try {
+            test.run();
+        } catch (RuntimeException | AssertionError e) {
+            fail("stopped by " + e + " at " + e.getStackTrace()[0]);
+        }
+        if (wrong == before) {
+            passed++;
+        } else {
+            failed++;
+            System.out.println("FAILED: " + sentence);
+        }
     }
 
     static void due(String what, int want, int got) {
@@ -29,18 +52,7 @@ final class Check {
         refused(what, IllegalStateException.class, call);
     }
 
-    static void fail(String text) {
-        wrong++;
-        System.out.println(text);
-    }
-
-    /** Ends the program, with the exit code 1 if an answer was not as due. */
-    static void end() {
-        System.out.println(wrong == 0 ? "all answers are as due" : wrong + " answers are not as due");
-        System.exit(wrong == 0 ? 0 : 1);
-    }
-
-    private static void refused(String what, Class<?> want, Asked call) {
+    static void refused(String what, Class<?> want, Asked call) {
         try {
             int got = call.answer();
             fail(what + " answered " + got + ", due is " + want.getSimpleName());
@@ -50,5 +62,16 @@ final class Check {
                 fail(what + " threw " + e + ", due is " + want.getSimpleName());
             }
         }
+    }
+
+    static void fail(String text) {
+        wrong++;
+        System.out.println(text);
+    }
+
+    /** Ends the program, with the exit code 1 if a test failed. */
+    static void end() {
+        System.out.println(passed + " passed, " + failed + " failed");
+        System.exit(wrong == 0 && passed > 0 ? 0 : 1);
     }
 }

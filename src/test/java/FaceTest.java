@@ -36,18 +36,36 @@ public final class FaceTest {
     };
 
     public static void main(String[] args) {
+        Check.that("the class is public and final", FaceTest::classIsPublicAndFinal);
+        Check.that("one public constructor without parameters", FaceTest::oneConstructor);
+        Check.that("no field that is not private", FaceTest::fieldsArePrivate);
+        Check.that("the public methods with their exceptions, and no other that is not private",
+            FaceTest::methodsOfTheFace);
+        Check.end();
+    }
+
+    private static void classIsPublicAndFinal() {
         if (Callgate.class.getModifiers() != (Modifier.PUBLIC | Modifier.FINAL)) {
             Check.fail("the class is " + Modifier.toString(Callgate.class.getModifiers()));
         }
+    }
+
+    private static void oneConstructor() {
         Constructor<?>[] made = Callgate.class.getDeclaredConstructors();
         if (made.length != 1 || made[0].getModifiers() != Modifier.PUBLIC || made[0].getParameterCount() != 0) {
             Check.fail("the constructors are " + Arrays.toString(made));
         }
+    }
+
+    private static void fieldsArePrivate() {
         for (Field field : Callgate.class.getDeclaredFields()) {
             if (!Modifier.isPrivate(field.getModifiers())) {
                 Check.fail("a field that is not private: " + field);
             }
         }
+    }
+
+    private static void methodsOfTheFace() {
         Set<String> seen = new TreeSet<>();
         for (Method method : Callgate.class.getDeclaredMethods()) {
             if (method.getModifiers() == Modifier.PUBLIC) {
@@ -60,7 +78,6 @@ public final class FaceTest {
         if (!seen.equals(due)) {
             Check.fail("the face is " + seen + ", due is " + due);
         }
-        Check.end();
     }
 
     private static String told(Method method) {

@@ -1,14 +1,18 @@
+import java.util.ArrayList;
+import java.util.Arrays;
+import java.util.Collections;
+import java.util.List;
 import java.util.Random;
 
 /**
- * Promises 1 to 24 in long mixed runs: Callgate and the model do the same calls, and after each
- * call all that can be asked is compared, so that a call that throws is seen to change nothing.
+ * Promises 1 to 24 in long mixed runs: Callgate and the model do the same calls, and at the end of a run,
+ * which comes early or late, as much as 512 calls leave room for is asked of both. A call that throws
+ * does nothing to the model, so it is seen to do nothing to Callgate either.
  * The seeds are fixed, so every run of this test is the same.
  */
 public final class RandomRunsTest {
 
-    private static final int RUNS = 300;
-    private static final int CALLS = 512;
+    private static final int RUNS = 3000;
     private static final int[] ODD = {-2, -1, 0, 1, 2, 39, 40, 41, Integer.MIN_VALUE, Integer.MAX_VALUE};
 
     private static final String[] NAMES = {
@@ -17,32 +21,39 @@ public final class RandomRunsTest {
         "frameValue", "pass", "now"};
 
     public static void main(String[] args) {
-        for (int run = 0; run < RUNS; run++) {
-            if (!runAgrees(run)) {
-                Check.fail("run " + run + " does not agree with the model");
-                break;
-            }
+        for (int temper = 0; temper < 4; temper++) {
+            int first = temper;
+            Check.that("mixed runs of the temper " + temper, () -> runsAgree(first));
         }
         Check.end();
     }
 
+    private static void runsAgree(int temper) {
+        for (int run = temper; run < RUNS; run += 4) {
+            if (!runAgrees(run)) {
+                Check.fail("run " + run + " does not agree with the model");
+                return;
+            }
+        }
+    }
+
     private static boolean runAgrees(int run) {
         Random random = new Random(run);
-        Callgate gate = new Callgate();
+        Gate gate = new Gate();
         Model model = new Model();
-        for (int i = 0; i < CALLS; i++) {
-            int[] row = next(random, gate, run % 4);
-            if (!agree(gate, model, row, i) || !statesAgree(gate, model, i)) {
+        int calls = 1 + random.nextInt(Gate.MOST_CALLS);
+        for (int i = 0; i < calls; i++) {
+            if (!agree(gate, model, next(random, model, run % 4))) {
                 return false;
             }
         }
-        return true;
+        return statesAgree(gate, model, random);
     }
 
     /** A next call; the four tempers of a run make full links, long streams, and many deadlines likely. */
-    private static int[] next(Random random, Callgate gate, int temper) {
+    private static int[] next(Random random, Model model, int temper) {
         int dice = random.nextInt(100);
-        int call = call(random, gate);
+        int call = call(random, model.call(new int[] {3}));
         if (dice < 20) {
             return new int[] {0, odd(random, random.nextInt(4)), odd(random, argument(random, temper)),
                 odd(random, timeout(random, temper)), random.nextInt(3) == 0 ? call : -1};
@@ -71,8 +82,8 @@ public final class RandomRunsTest {
         return new int[] {21, odd(random, 1 + random.nextInt(temper == 3 ? 60 : 5))};
     }
 
-    private static int call(Random random, Callgate gate) {
-        return odd(random, gate.calls() == 0 ? 0 : random.nextInt(gate.calls()));
+    private static int call(Random random, int calls) {
+        return odd(random, calls == 0 ? 0 : random.nextInt(calls));
     }
 
     private static int argument(Random random, int temper) {
@@ -88,49 +99,43 @@ public final class RandomRunsTest {
         return random.nextInt(25) == 0 ? ODD[random.nextInt(ODD.length)] : usual;
     }
 
-    private static boolean statesAgree(Callgate gate, Model model, int i) {
+    private static boolean statesAgree(Gate gate, Model model, Random random) {
+        List<int[]> questions = new ArrayList<>();
         for (int question : new int[] {3, 10, 14, 22}) {
-            if (!agree(gate, model, new int[] {question}, i)) {
-                return false;
-            }
+            questions.add(new int[] {question});
         }
-        for (int call = 0; call < gate.calls(); call++) {
+        for (int call = model.call(new int[] {3}) - 1; call >= 0; call--) {
             for (int question : new int[] {4, 5, 6, 7, 8, 9, 12, 13}) {
-                if (!agree(gate, model, new int[] {question, call}, i)) {
-                    return false;
-                }
+                questions.add(new int[] {question, call});
             }
         }
         for (int direction = 0; direction < 2; direction++) {
-            if (!agree(gate, model, new int[] {18, direction}, i)) {
-                return false;
+            questions.add(new int[] {18, direction});
+            for (int place = model.call(new int[] {18, direction}) - 1; place >= 0; place--) {
+                questions.add(new int[] {19, direction, place});
+                questions.add(new int[] {20, direction, place});
             }
-            for (int place = 0; place < gate.frames(direction); place++) {
-                if (!agree(gate, model, new int[] {19, direction, place}, i)
-                        || !agree(gate, model, new int[] {20, direction, place}, i)) {
-                    return false;
-                }
+        }
+        Collections.shuffle(questions, random);
+        for (int i = 0; i < questions.size() && gate.left() > 0; i++) {
+            if (!agree(gate, model, questions.get(i))) {
+                return false;
             }
         }
         return true;
     }
 
-    private static boolean agree(Callgate gate, Model model, int[] row, int i) {
+    private static boolean agree(Gate gate, Model model, int[] row) {
         String due;
         try {
             due = Integer.toString(model.call(row));
         } catch (Model.Refused e) {
             due = exceptionFor(e.why).getName();
         }
-        String got;
-        try {
-            got = Integer.toString(ask(gate, row));
-        } catch (RuntimeException e) {
-            got = e.getClass().getName();
-        }
+        String got = Twins.answer(() -> ask(gate, row));
         if (!due.equals(got)) {
-            Check.fail("call " + i + ": " + NAMES[row[0]] + java.util.Arrays.toString(row)
-                + " answered " + got + ", due is " + due);
+            Check.fail("the call " + (Gate.MOST_CALLS - gate.left()) + ": " + NAMES[row[0]]
+                + Arrays.toString(Arrays.copyOfRange(row, 1, row.length)) + " answered " + got + ", due is " + due);
         }
         return due.equals(got);
     }
@@ -143,11 +148,11 @@ public final class RandomRunsTest {
         }
     }
 
-    private static int ask(Callgate x, int[] row) {
+    private static int ask(Gate x, int[] row) {
         switch (row[0]) {
             case 0: return x.open(row[1], row[2], row[3], row[4]);
             case 1: return x.cancel(row[1]);
-            case 2: x.grant(row[1], row[2]); return 0;
+            case 2: return x.grant(row[1], row[2]);
             case 3: return x.calls();
             case 4: return x.outcome(row[1]);
             case 5: return x.value(row[1]);
