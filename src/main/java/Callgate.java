@@ -190,6 +190,10 @@ public final class Callgate {
         int mark = lane.marks[slot];
         int carried = lane.values[slot];
         lane.removeFirst();
+        // Only calls of the book send frames; still, the number is an index from here on.
+        if (!book.has(call)) {
+            return call;
+        }
         if (direction == TO_SERVER) {
             server.take(kind, call, carried, time);
         } else {
@@ -335,7 +339,7 @@ public final class Callgate {
         }
 
         private int slotOf(int place) {
-            return (first + place) % MOST_FRAMES;
+            return Math.floorMod(first + place, MOST_FRAMES);
         }
 
         private void send(int kind, int owner, int mark, int carried) {
