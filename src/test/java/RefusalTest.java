@@ -531,7 +531,8 @@ public final class RefusalTest {
         Check.that("22: IllegalArgumentException if direction is out of range",
             () -> directionOutOfRange("frameValue(.., 0)", (x, direction) -> x.frameValue(direction, 0)));
         Check.that("22: IndexOutOfBoundsException if direction is in range, and there is no such frame",
-            () -> noSuchFrame("frameValue", (x, place) -> x.frameValue(0, place), (x, place) -> x.frameValue(1, place)));
+            () -> noSuchFrame("frameValue", (x, place) -> x.frameValue(0, place),
+                (x, place) -> x.frameValue(1, place)));
         Check.that("22: a direction out of range goes before a place out of range",
             () -> directionOutOfRange("frameValue(.., 40)", (x, direction) -> x.frameValue(direction, 40)));
         Check.that("21, 22: the first and the last place are frames", RefusalTest::firstAndLastPlace);

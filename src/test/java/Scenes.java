@@ -12,54 +12,51 @@ final class Scenes {
 
     /** Opens a call and brings it to its end with the outcome. The link must be empty, and is empty again. */
     static int ended(Gate x, int outcome) {
-        int call;
         switch (outcome) {
             case ANSWERED:
                 return answered(x, 0, 3);
-            case CANCELLED:
-                call = x.open(0, 3, 50, -1);
-                x.cancel(call);
-                x.lose(0);
-                x.lose(0);
-                return call;
-            case DEADLINE_REACHED:
-                call = x.open(0, 3, 1, -1);
-                x.lose(0);
-                x.pass(1);
-                return call;
             case FAILED:
                 return answered(x, 2, 3);
+            case BROKEN:
+                return broken(x);
             default:
-                return endedStream(x, BROKEN);
+                return endedAlone(x, 0, outcome);
         }
     }
 
     /** The same with a call of method 3, which cannot end as failed. */
     static int endedStream(Gate x, int outcome) {
-        int call;
         switch (outcome) {
             case ANSWERED:
                 return answered(x, 3, 0);
-            case CANCELLED:
-                call = x.open(3, 3, 50, -1);
-                x.cancel(call);
-                x.lose(0);
-                x.lose(0);
-                return call;
-            case DEADLINE_REACHED:
-                call = x.open(3, 3, 1, -1);
-                x.lose(0);
-                x.pass(1);
-                return call;
+            case BROKEN:
+                return broken(x);
             default:
-                call = x.open(3, 1, 50, -1);
-                x.deliver(0);
-                x.work(call);
-                x.work(call);
-                x.lose(1);
-                x.deliver(1);
-                return call;
+                return endedAlone(x, 3, outcome);
         }
+    }
+
+    /** Without a word from the server: as cancelled, or as deadline reached. */
+    private static int endedAlone(Gate x, int method, int outcome) {
+        int call = x.open(method, 3, outcome == CANCELLED ? 50 : 1, -1);
+        x.lose(0);
+        if (outcome == CANCELLED) {
+            x.cancel(call);
+            x.lose(0);
+        } else {
+            x.pass(1);
+        }
+        return call;
+    }
+
+    private static int broken(Gate x) {
+        int call = x.open(3, 1, 50, -1);
+        x.deliver(0);
+        x.work(call);
+        x.work(call);
+        x.lose(1);
+        x.deliver(1);
+        return call;
     }
 
     /** Opens a call of which the next step is its answer, and has it answered. */
